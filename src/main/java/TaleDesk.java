@@ -28,6 +28,8 @@ public final class TaleDesk {
   private static final int NUMBERS = 30;
   private static final int KEPT_ACTS = 20;
   private static final int BRANCH_BASE = 16;
+  private static final int EVERYWHERE = -1;
+  private static final int NO_TALE = -1;
 
   private static final int UNLIKE_MOTIF = 0;
   private static final int UNLIKE_ROLE = 1;
@@ -77,9 +79,7 @@ public final class TaleDesk {
       return finding(FULL);
     }
     history.keep(book);
-    int tale = book.addTale(kind, place, day);
-    costs.forget(tale);
-    return tale;
+    return book.addTale(kind, place, day);
   }
 
   public int as(int tale, int kind) {
@@ -139,7 +139,7 @@ public final class TaleDesk {
   }
 
   public int print(int tale, int other) {
-    if (!book.hasTale(tale) || (other != -1 && !book.hasTale(other))) {
+    if (!book.hasTale(tale) || (other != NO_TALE && !book.hasTale(other))) {
       return finding(BEYOND);
     }
     if (book.kinds[tale] != RETOLD) {
@@ -264,17 +264,7 @@ public final class TaleDesk {
     if (!book.hasTale(tale)) {
       return finding(BEYOND);
     }
-    int best = -1;
-    int least = 0;
-    for (int other = 0; other < book.tales; other++) {
-      if (other != tale) {
-        int price = costs.between(other, tale);
-        if (best < 0 || price < least) {
-          best = other;
-          least = price;
-        }
-      }
-    }
+    int best = cheapestBeside(tale, false);
     return best < 0 ? finding(NONE) : best;
   }
 
@@ -336,19 +326,11 @@ public final class TaleDesk {
   }
 
   public int count(int motif, int place, boolean most) {
-    if (!isWithin(motif, MOTIFS) || (place != -1 && !isWithin(place, PLACES))) {
+    if (!isWithin(motif, MOTIFS) || (place != EVERYWHERE && !isWithin(place, PLACES))) {
       return finding(BEYOND);
     }
-    int sum = 0;
-    for (int tale = 0; tale < book.tales; tale++) {
-      if (place == -1 || book.places[tale] == place) {
-        sum += book.howOften(motif, tale);
-        if (most && book.isDoubtful(tale)) {
-          sum++;
-        }
-      }
-    }
-    return sum;
+    int counted = book.howOftenAt(motif, place);
+    return most ? counted + book.doubtsAt(place) : counted;
   }
 
   public int home(int motif) {
@@ -493,13 +475,15 @@ public final class TaleDesk {
 
   /** The SOURCE of a tale, or -1. */
   private int sourceOf(int tale) {
-    if (book.prints[tale] >= 0) {
-      return book.prints[tale];
-    }
+    return book.prints[tale] >= 0 ? book.prints[tale] : cheapestBeside(tale, true);
+  }
+
+  /** The other tale (inTime: of those that could have come by then) of the least COST, or -1. */
+  private int cheapestBeside(int tale, boolean inTime) {
     int best = -1;
     int least = 0;
     for (int other = 0; other < book.tales; other++) {
-      if (book.couldReach(other, tale)) {
+      if (other != tale && (!inTime || book.couldReach(other, tale))) {
         int price = costs.between(other, tale);
         if (best < 0 || price < least) {
           best = other;
@@ -588,7 +572,7 @@ public final class TaleDesk {
       kinds[tale] = kind;
       places[tale] = place;
       days[tale] = day;
-      prints[tale] = -1;
+      prints[tale] = NO_TALE;
       lengths[tale] = 0;
       tales++;
       return tale;
@@ -652,7 +636,7 @@ public final class TaleDesk {
 
     boolean couldReach(int from, int to) {
       int way = wayBetween(places[from], places[to]);
-      return from != to && days[from] < days[to] && days[from] + way <= days[to];
+      return days[from] < days[to] && days[from] + way <= days[to];
     }
 
     int howManySteps() {
@@ -676,15 +660,25 @@ public final class TaleDesk {
     int howOftenAt(int motif, int place) {
       int sum = 0;
       for (int tale = 0; tale < tales; tale++) {
-        if (places[tale] == place) {
+        if (isAt(tale, place)) {
           sum += howOften(motif, tale);
         }
       }
       return sum;
     }
 
-    boolean isDoubtful(int tale) {
-      return isTorn(tale) && lengths[tale] < STEPS;
+    int doubtsAt(int place) {
+      int sum = 0;
+      for (int tale = 0; tale < tales; tale++) {
+        if (isAt(tale, place) && isTorn(tale) && lengths[tale] < STEPS) {
+          sum++;
+        }
+      }
+      return sum;
+    }
+
+    boolean isAt(int tale, int place) {
+      return place == EVERYWHERE || places[tale] == place;
     }
   }
 
@@ -747,13 +741,10 @@ public final class TaleDesk {
     int leastCost;
     int carrying;
 
-    void setPrices(int[] prices) {
+    void findLeast(int[] prices) {
       motifPrice = prices[UNLIKE_MOTIF];
       rolePrice = prices[UNLIKE_ROLE];
       alonePrice = prices[ALONE];
-    }
-
-    void findLeast() {
       leastCost = Integer.MAX_VALUE;
       for (int c = 0; c < CARRYINGS.length && leastCost > 0; c++) {
         carrySteps(CARRYINGS[c]);
@@ -878,13 +869,16 @@ public final class TaleDesk {
     }
 
     int between(int x, int y) {
-      if (known[x * TALES + y] < 0) {
-        layTales(x, y);
+      int at = x * TALES + y;
+      if (known[at] < 0) {
+        laying.a.takeLaid(book, x);
+        laying.b.takeLaid(book, y);
+        laying.findLeast(book.prices);
+        known[at] = laying.leastCost;
         // The same pairs by the CARRYING turned round cost the same, so COST(x, y) is COST(y, x).
-        known[x * TALES + y] = laying.leastCost;
         known[y * TALES + x] = laying.leastCost;
       }
-      return known[x * TALES + y];
+      return known[at];
     }
 
     void reckonHeap(int heap) {
@@ -897,11 +891,11 @@ public final class TaleDesk {
       }
     }
 
+    /** The LAYING of two tales with THE CARRYING, which a known COST does not tell. */
     Laying layTales(int x, int y) {
-      laying.setPrices(book.prices);
       laying.a.takeLaid(book, x);
       laying.b.takeLaid(book, y);
-      laying.findLeast();
+      laying.findLeast(book.prices);
       return laying;
     }
 
@@ -913,10 +907,9 @@ public final class TaleDesk {
 
     /** COST of a part of a tale, as a TALE, beside another tale. */
     int ofPart(int tale, int from, int howMany, int other) {
-      laying.setPrices(book.prices);
       laying.a.takePart(book, tale, from, howMany);
       laying.b.takeLaid(book, other);
-      laying.findLeast();
+      laying.findLeast(book.prices);
       return laying.leastCost;
     }
   }

@@ -220,6 +220,22 @@ public final class LayingsTest {
     due("18 eleven", x.tree(2047), Check.BEYOND);
   }
 
+  private static void treeOfJoinedParts() {
+    TaleDesk x = new TaleDesk();
+    told(x, 0, 1, 0, 1);
+    told(x, 0, 1, 0, 1, 2, 0, 1, 3, 0, 1);
+    told(x, 0, 1, 0, 1, 2, 0, 1);
+    told(x, 0, 1, 0, 1, 2, 0, 1, 3, 0, 1, 4, 0, 1);
+    due("19 a part joined to a lower one's", x.branch(15, 0), 2);
+    due("19 a part joined to a lower one's", x.branch(15, 1), 16 + 2);
+    due("19 no round by the first part", x.branch(15, 2), 16 + 3);
+    due("18 sum", x.tree(15), 9);
+    x.step(3, 5, 0, 1);
+    x.step(3, 6, 0, 1);
+    due("18 sum", x.tree(15), 15);
+    due("19 no round by the first part", x.branch(15, 2), 16 + 3);
+  }
+
   private static void nearest() {
     TaleDesk x = new TaleDesk();
     due("20 no tale", x.nearest(0), Check.BEYOND);
@@ -247,6 +263,7 @@ public final class LayingsTest {
     pairs();
     mouldAndSpread();
     tree();
+    treeOfJoinedParts();
     nearest();
     CHECK.end("LayingsTest");
   }

@@ -1,7 +1,10 @@
 import java.lang.reflect.Method;
+import java.util.Arrays;
+import java.util.HashMap;
+import java.util.Map;
 import java.util.Random;
 
-/** Runs of 512 calls, drawn with fixed seeds, asked of the program and of the reference alike. */
+/** Runs of calls, drawn with fixed seeds, asked of the program and of the reference alike. */
 public final class RunsTest {
   private static final String[] CHANGES = {
     "tale", "step", "step", "step", "step", "step", "unstep", "print", "recode", "price", "way",
@@ -13,9 +16,14 @@ public final class RunsTest {
   private static final int[] FAR = {
     -2, -1, Integer.MIN_VALUE, Integer.MAX_VALUE, 4, 6, 10, 16, 31, 1000, 1024, Integer.MIN_VALUE + 1};
 
+  /** Each of them is followed by all(0), and an object is used for at most 512. */
+  private static final int CALLS = 256;
+
   private final Random random;
   private final int motifs;
   private final int roles;
+  /** How many calls at first make tales and STEPS alone, so that some runs have full tales. */
+  private final int filling;
   private int tales;
 
   private RunsTest(long seed) {
@@ -23,6 +31,7 @@ public final class RunsTest {
     int[] some = {2, 3, 5, 16};
     motifs = some[random.nextInt(4)];
     roles = 2 + random.nextInt(3);
+    filling = random.nextInt(100);
   }
 
   private int below(int bound) {
@@ -73,14 +82,14 @@ public final class RunsTest {
     }
   }
 
-  private int run(Check check, long seed, int calls, int looksIn, java.util.Map<String, Method> methods)
+  private void run(Check check, long seed, int looksIn, Map<String, Method> methods)
       throws ReflectiveOperationException {
     TaleDesk desk = new TaleDesk();
     ReferenceDesk reference = new ReferenceDesk();
     StringBuilder told = new StringBuilder();
-    for (int i = 0; i < calls; i++) {
+    for (int i = 0; i < CALLS; i++) {
       String[] from = below(looksIn) != 0 ? LOOKS : CHANGES;
-      String name = tales < 2 && below(3) != 0 ? "tale" : from[below(from.length)];
+      String name = i < filling ? (tales < 6 ? "tale" : "step") : from[below(from.length)];
       int[] v = argumentsOf(name);
       boolean flag = name.equals("pairs") || name.equals("joined") || name.equals("count");
       int numbers = flag ? v.length - 1 : v.length;
@@ -93,30 +102,29 @@ public final class RunsTest {
       }
       int got = (Integer) methods.get(name).invoke(desk, given);
       int want = reference.call(name, v);
-      told.append(name).append(java.util.Arrays.toString(v)).append(" = ").append(want).append('\n');
+      told.append(name).append(Arrays.toString(v)).append(" = ").append(want).append('\n');
       if (got != want) {
         System.out.println(told);
       }
-      check.due("run " + seed + ", call " + i + " " + name + java.util.Arrays.toString(v), got, want);
+      check.due("run " + seed + ", call " + i + " " + name + Arrays.toString(v), got, want);
       if (got != want) {
-        return i;
+        return;
       }
       tales = desk.all(0);
       reference.call("all", 0);
     }
-    return calls;
   }
 
   public static void main(String[] args) throws ReflectiveOperationException {
-    java.util.Map<String, Method> methods = new java.util.HashMap<>();
+    Map<String, Method> methods = new HashMap<>();
     for (Method m : TaleDesk.class.getDeclaredMethods()) {
       methods.put(m.getName(), m);
     }
-    int runs = args.length > 0 ? Integer.parseInt(args[0]) : 60;
+    int runs = args.length > 0 ? Integer.parseInt(args[0]) : 80;
     int start = args.length > 1 ? Integer.parseInt(args[1]) : 0;
     Check check = new Check();
     for (long seed = start; seed < start + runs && check.howManyWrong() < 3; seed++) {
-      new RunsTest(seed).run(check, seed, 256, 2 + (int) (seed % 4), methods);
+      new RunsTest(seed).run(check, seed, 2 + (int) (seed % 4), methods);
     }
     check.end("RunsTest");
   }

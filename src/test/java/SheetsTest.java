@@ -156,6 +156,10 @@ public final class SheetsTest {
     x.put(1, 0, 77);
     due("30 not one three", x.lay(0, 1), 0);
     due("30 no steps", x.told(0, 3), 0);
+    due("30 cost", x.cost(0, 1), 0);
+    x.sheet(2, 8, 6);
+    due("30 cost follows", x.lay(0, 2) + x.cost(0, 1), 2 + 6);
+    x.undo();
     due("30 undone", x.undo(), 7);
     due("30 as it was", x.told(0, 3), 2);
     due("30 as it was", x.of(0, 1, 2), 1);

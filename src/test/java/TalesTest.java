@@ -186,6 +186,12 @@ public final class TalesTest {
     due("8 ring", x.print(0, 1), Check.RING);
     due("8 none", x.print(2, -1), 0);
     due("8 none", x.told(2, 5), -1);
+    TaleDesk row = new TaleDesk();
+    for (int i = 0; i < 10; i++) {
+      row.tale(3, 0, 0);
+      due("8 ten in a row", row.print(i, i - 1), -1);
+    }
+    due("8 ring of ten", row.print(0, 9), Check.RING);
     int found = x.all(2);
     due("8 none twice", x.print(2, -1), -1);
     due("8 -1 is no finding", x.all(2), found);
@@ -209,6 +215,11 @@ public final class TalesTest {
     due("9 whom stays", x.of(0, 0, 2), 2);
     due("9 another motif stays", x.of(0, 1, 0), 4);
     due("9 in the other tale", x.of(1, 0, 0), 15);
+    x.step(1, 6, 0, 3);
+    due("9 a later step of a later tale", x.recode(6, 7), 1);
+    due("9 a later step of a later tale", x.of(1, 1, 0), 7);
+    due("9 a later step of a later tale", x.of(1, 1, 2), 3);
+    x.unstep(1);
     due("9 none left", x.recode(3, 15), 0);
     due("9 to itself", x.recode(15, 15), 2);
     x.unstep(1);

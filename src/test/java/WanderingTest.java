@@ -50,6 +50,7 @@ public final class WanderingTest {
     due("21 by print", x.source(0), 2);
     x.print(0, -1);
     due("21 by days again", x.source(0), 1);
+    due("21 tale 0", x.source(2), 0);
   }
 
   private static void first() {
@@ -117,6 +118,15 @@ public final class WanderingTest {
     x.tale(0, 0, 0);
     steps(x, 3, 2, 0, 1, 1, 2, 3);
     due("23 the first in a, later in b", x.borrowed(0, 3, 2), 1);
+    x.tale(0, 0, 0);
+    steps(x, 4, 1, 0, 2, 2, 3, 2);
+    due("23 a role that went to 0 would go to 3", x.borrowed(0, 4, 0), 1);
+    x.tale(0, 0, 0);
+    steps(x, 5, 1, 0, 1, 2, 0, 1);
+    due("23 two", x.borrowed(0, 5, 0), 2);
+    x.unstep(5);
+    due("23 not what went", x.borrowed(0, 5, 0), 1);
+    due("23 not what went", x.borrowed(5, 0, 0), 1);
     for (int i = 0; i < 8; i++) {
       x.step(0, 5, 0, 0);
       x.step(1, 5, 1, 1);
@@ -191,6 +201,10 @@ public final class WanderingTest {
     due("25 nine steps are in doubt", x.count(2, 0, true), 2);
     x.step(1, 4, 0, 0);
     due("25 ten are not", x.count(2, 0, true), 1);
+    TaleDesk torn = new TaleDesk();
+    torn.tale(1, 3, 0);
+    due("25 tale 0 in doubt", torn.count(15, 3, true), 1);
+    due("25 tale 0 in doubt", torn.count(15, -1, true), 1);
     due("25 motif", x.count(16, 0, false), Check.BEYOND);
     due("25 motif", x.count(-1, 0, false), Check.BEYOND);
     due("25 place", x.count(0, 6, false), Check.BEYOND);
@@ -212,6 +226,11 @@ public final class WanderingTest {
     due("26 of several the first", x.home(7), 2);
     x.step(1, 7, 1, 1);
     due("26 most again", x.home(7), 4);
+    x.step(0, 8, 0, 0);
+    due("26 place 0", x.home(8), 0);
+    x.tale(0, 5, 0);
+    x.step(4, 9, 0, 0);
+    due("26 place 5", x.home(9), 5);
     due("26 motif", x.home(16), Check.BEYOND);
     due("26 motif", x.home(-1), Check.BEYOND);
   }
