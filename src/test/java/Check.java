@@ -33,7 +33,7 @@ final class Check {
 
   void end(String name) {
     System.out.println(name + ": " + asked + " looked at, " + wrong + " wrong");
-    if (wrong != 0) {
+    if (wrong != 0 || asked == 0) {
       System.exit(1);
     }
   }
