@@ -29,7 +29,7 @@ public final class FindingsTest extends Sentences {
     tellAt(x, TALE, 0, 10, 1, 0, 1, 2, 1, 2, 3, 2, 3);
     tellAt(x, TORN, 1, 20, 1, 2, 3, 2, 3, 0);
     tellAt(x, FRAME, 2, 30, 9, 3, 3, 2, 1, 0, 9, 3, 3);
-    tellAt(x, RETOLD, 0, 40, 4, 0, 0);
+    tellAt(x, RETOLD, 0, 40, 0, 0, 0);
     tellAt(x, RETOLD, 5, 999);
     x.print(4, 3);
     x.print(3, 1);
@@ -186,6 +186,7 @@ public final class FindingsTest extends Sentences {
   static void recode() {
     sentence("9", CHANGES_NOTHING);
     refused("no such motif", RICH, x -> x.recode(16, 1), BEYOND);
+    refused("no such motif", RICH, x -> x.recode(-1, 5), BEYOND);
     refused("no such other", RICH, x -> x.recode(1, 16), BEYOND);
     refused("no such other", RICH, x -> x.recode(1, -1), BEYOND);
   }
@@ -203,6 +204,7 @@ public final class FindingsTest extends Sentences {
     refused("no such other", RICH, x -> x.way(0, -1, 1), BEYOND);
     refused("days 1000", RICH, x -> x.way(0, 1, 1000), BEYOND);
     refused("one place", RICH, x -> x.way(1, 1, 5), SIZE);
+    refused("one place with two tales", RICH, x -> x.way(0, 0, 999), SIZE);
     sentence("11", IN_ORDER);
     refused("BEYOND (places) ahead of SIZE", RICH, x -> x.way(6, 6, 1), BEYOND);
     refused("BEYOND (places) ahead of SIZE", RICH, x -> x.way(-1, -1, 1), BEYOND);

@@ -3,8 +3,8 @@ import java.util.List;
 import java.util.function.Supplier;
 
 /**
- * All that calls can tell of a desk: its tales, PRICES, WAYS and COSTS, now and behind each undo, and
- * its sheets. Looking changes a desk and takes calls, so each part is asked of a desk made anew.
+ * All that calls can tell of a desk: its tales, PRICES, WAYS, COSTS and SOURCES, now and behind each
+ * undo, and its sheets. Looking changes a desk and takes calls, so each part is asked of a desk made anew.
  */
 final class Portrait {
   private final Supplier<TaleDesk> made;
@@ -21,6 +21,7 @@ final class Portrait {
       p.tales(back);
       p.pricesAndWays(back);
       p.costs(back);
+      p.sources(back);
     }
     for (int s = 0; s < 4; s++) {
       p.sheet(s);
@@ -101,6 +102,16 @@ final class Portrait {
       for (int b = 0; b < tales; b++) {
         line(undos + " undone, cost " + a + " " + b, x.cost(a, b));
       }
+    }
+  }
+
+  /** These alone tell the WAY between a place and itself. */
+  private void sources(int undos) {
+    TaleDesk x = back(undos);
+    int tales = x.all(0);
+    for (int tale = 0; tale < tales; tale++) {
+      line(undos + " undone, source " + tale, x.source(tale));
+      line(undos + " undone, first " + tale, x.first(tale));
     }
   }
 

@@ -418,6 +418,26 @@ public final class SheetsTest extends Sentences {
     dueSteps("lay", undone("lay", x -> x.lay(0, 0), 2), 0, 3, 0, 1);
   }
 
+  static void undoOfAHundredSteps() {
+    sentence("31", "The latest act that changed tales, PRICES or WAYS (tale, step, unstep, print, recode, price, way, lay,");
+    TaleDesk x = new TaleDesk();
+    for (int tale = 0; tale < 10; tale++) {
+      motifs(x, tale % 4, 5, 5, 5, 5, 5, 5, 5, 5, 5, 5);
+    }
+    x.recode(5, 6);
+    x.sheet(0, 8, 30);
+    x.lay(9, 0);
+    due("the lay", x.undo(), 19);
+    due("the recode", x.undo(), 18);
+    for (int tale = 0; tale < 10; tale++) {
+      due("STEPS of " + tale, x.told(tale, 3), 10);
+      for (int i = 0; i < 10; i++) {
+        due("STEP " + i + " of " + tale, x.of(tale, i, 0), 5);
+        due("STEP " + i + " of " + tale + ", to whom", x.of(tale, i, 2), 1);
+      }
+    }
+  }
+
   static void undoOfSeveral() {
     sentence("31", "is undone: how many more can be.");
     TaleDesk x = undoable();

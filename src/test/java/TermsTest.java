@@ -418,6 +418,43 @@ public final class TermsTest extends Sentences {
     duePairs("both TORN, pairs for nothing: P P", x, late, torn, 0, 1);
   }
 
+  static void theLayingOfAsManyMovesAsCanBe() {
+    sentence("Terms 2", "of all that cost so the first, P ahead of A ahead of B.");
+    TaleDesk x = new TaleDesk();
+    int a = motifs(x, TALE, 1, 1, 1, 1, 1, 1, 1, 1, 1, 5);
+    int b = motifs(x, TALE, 2, 2, 2, 2, 2, 2, 2, 2, 2, 5);
+    x.price(0, 9);
+    duePairs("nine A, nine B, P", x, a, b, -1, -1, -1, -1, -1, -1, -1, -1, -1, 9);
+    due("nine A, nine B, P: one pair", x.pairs(a, b, false), 1);
+    due("nine A, nine B, P: cost", x.cost(a, b), 54);
+    x.recode(2, 3);
+    x.unstep(b);
+    x.step(b, 3, 0, 1);
+    duePairs("ten A, ten B", x, a, b, -1, -1, -1, -1, -1, -1, -1, -1, -1, -1);
+    due("ten A, ten B: no pair", x.pairs(a, b, false), 0);
+    due("ten A, ten B, turned round: no pair", x.pairs(b, a, false), 0);
+  }
+
+  static void theLayingEndsAheadOfALatePair() {
+    sentence("Terms 2", "of all that cost so the first, P ahead of A ahead of B.");
+    TaleDesk x = new TaleDesk();
+    x.price(0, 9);
+    x.price(1, 3);
+    int a = tell(x, TALE, 1, 0, 1);
+    int torn = tell(x, TORN, 9, 0, 1, 1, 0, 0);
+    due("A B B and B P cost the same beside a TORN one", x.cost(a, torn), 6);
+    duePairs("A B B ahead of B P", x, a, torn, -1);
+    int whole = tell(x, TALE, 9, 0, 1, 1, 0, 0);
+    due("beside a TALE B P is cheaper", x.cost(a, whole), 6);
+    duePairs("B P where A B B is dearer", x, a, whole, 1);
+    int longer = tell(x, TALE, 5, 0, 1, 1, 0, 1);
+    int longerTorn = tell(x, TORN, 5, 0, 1, 9, 0, 1, 1, 0, 0);
+    due("behind a pair", x.cost(longer, longerTorn), 6);
+    duePairs("P A B B ahead of P B P", x, longer, longerTorn, 0, -1);
+    int longerWhole = tell(x, TALE, 5, 0, 1, 9, 0, 1, 1, 0, 0);
+    duePairs("P B P where P A B B is dearer", x, longer, longerWhole, 0, 2);
+  }
+
   // ---- 3: MOULD and THE TREE
 
   static void mouldIsOfTheLeastSum() {
@@ -557,6 +594,7 @@ public final class TermsTest extends Sentences {
       for (int other = 0; other < place; other++) {
         x.way(place, other, 999);
       }
+      due("which can't be told otherwise", x.way(place, place, 999), SIZE);
     }
     for (int place = 0; place < 5; place++) {
       x.tale(TALE, place, 10);
@@ -656,6 +694,23 @@ public final class TermsTest extends Sentences {
     dueBorrowed("of a TORN one", x, torn, other, 2, 0, 3);
   }
 
+  static void borrowedNotBehindTheLast() {
+    sentence("Terms 4", "BORROWED by a from b: the longest row of STEPS of a (not only LAID) one behind the other");
+    TaleDesk x = new TaleDesk();
+    int late = tell(x, TALE, 9, 0, 0, 1, 0, 0);
+    int early = tell(x, TALE, 1, 0, 0, 0, 0, 0);
+    dueBorrowed("a ends", x, late, early, 1, 1, 0);
+    dueBorrowed("b ends", x, early, late, 1, 0, 1);
+    x.step(late, 0, 0, 0);
+    dueBorrowed("a is longer", x, late, early, 2, 1, 0);
+    x.unstep(late);
+    dueBorrowed("a ends again", x, late, early, 1, 1, 0);
+    dueBorrowed("b ends again", x, early, late, 1, 0, 1);
+    int ten = motifs(x, TALE, 8, 8, 8, 8, 8, 8, 8, 8, 8, 7);
+    motifs(x, TALE, 6);
+    dueBorrowed("not into the next tale", x, ten, motifs(x, TALE, 7, 6), 1, 9, 0);
+  }
+
   static void borrowedByOneCarrying() {
     sentence("Terms 4", "that are, by one CARRYING, such a row of b,");
     TaleDesk x = new TaleDesk();
@@ -719,7 +774,9 @@ public final class TermsTest extends Sentences {
     TaleDesk x = new TaleDesk();
     int empty = x.tale(TALE, 0, 0);
     int longer = motifs(x, TALE, 1, 2);
-    due("a TORN one's end costs", x.joined(motifs(x, TORN, 1), longer, empty, true), 3);
+    int torn = motifs(x, TORN, 1);
+    due("beside all of a TORN one it does not", x.cost(torn, longer), 0);
+    due("a TORN one's end costs", x.joined(torn, longer, empty, true), 3);
     due("a RETOLD one's, too", x.joined(motifs(x, RETOLD, 1), empty, longer, true), 3);
     int frame = motifs(x, FRAME, 8, 1, 9);
     int head = motifs(x, TALE, 8);
