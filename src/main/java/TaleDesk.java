@@ -59,7 +59,7 @@ public final class TaleDesk {
   public TaleDesk() {
     book = new Book();
     history = new History();
-    costs = new Costs(book);
+    costs = new Costs();
     bestTree = new Tree();
     borrowing = new Borrowing();
     sheets = new Sheet[SHEETS];
@@ -193,14 +193,14 @@ public final class TaleDesk {
     if (!book.hasTale(a) || !book.hasTale(b)) {
       return finding(BEYOND);
     }
-    return costs.between(a, b);
+    return costs.between(book, a, b);
   }
 
   public int carried(int a, int b, int role) {
     if (!book.hasTale(a) || !book.hasTale(b) || !isWithin(role, ROLES)) {
       return finding(BEYOND);
     }
-    return goal(costs.layTales(a, b).carrying, role);
+    return goal(costs.layTales(book, a, b).carrying, role);
   }
 
   public int pair(int a, int b, int i) {
@@ -211,7 +211,7 @@ public final class TaleDesk {
     if (!isWithin(laid, book.laidLength(a))) {
       return finding(KIND);
     }
-    int partner = costs.pairTales(a, b).partners[laid];
+    int partner = costs.pairTales(book, a, b).partners[laid];
     return partner < 0 ? -1 : partner + book.firstLaid(b);
   }
 
@@ -219,7 +219,7 @@ public final class TaleDesk {
     if (!book.hasTale(a) || !book.hasTale(b)) {
       return finding(BEYOND);
     }
-    return costs.pairTales(a, b).howManyPairs(like);
+    return costs.pairTales(book, a, b).howManyPairs(like);
   }
 
   public int mould(int heap) {
@@ -227,7 +227,7 @@ public final class TaleDesk {
     if (refusal < 0) {
       return finding(refusal);
     }
-    costs.reckonHeap(heap);
+    costs.reckonHeap(book, heap);
     return mouldOf(heap);
   }
 
@@ -236,7 +236,7 @@ public final class TaleDesk {
     if (refusal < 0) {
       return finding(refusal);
     }
-    costs.reckonHeap(heap);
+    costs.reckonHeap(book, heap);
     return sumOfCosts(mouldOf(heap), heap);
   }
 
@@ -245,7 +245,7 @@ public final class TaleDesk {
     if (refusal < 0) {
       return finding(refusal);
     }
-    costs.reckonHeap(heap);
+    costs.reckonHeap(book, heap);
     bestTree.grow(costs.known, heap);
     return bestTree.sum;
   }
@@ -255,7 +255,7 @@ public final class TaleDesk {
     if (refusal < 0) {
       return finding(refusal);
     }
-    costs.reckonHeap(heap);
+    costs.reckonHeap(book, heap);
     bestTree.grow(costs.known, heap);
     return isWithin(i, bestTree.size) ? bestTree.branches[i] : finding(NONE);
   }
@@ -316,7 +316,7 @@ public final class TaleDesk {
     int place = 0;
     int least = 0;
     for (int k = 0; k <= length; k++) {
-      int both = costs.ofPart(tale, 0, k, b) + costs.ofPart(tale, k, length - k, c);
+      int both = costs.ofPart(book, tale, 0, k, b) + costs.ofPart(book, tale, k, length - k, c);
       if (k == 0 || both < least) {
         place = k;
         least = both;
@@ -484,7 +484,7 @@ public final class TaleDesk {
     int least = 0;
     for (int other = 0; other < book.tales; other++) {
       if (other != tale && (!inTime || book.couldReach(other, tale))) {
-        int price = costs.between(other, tale);
+        int price = costs.between(book, other, tale);
         if (best < 0 || price < least) {
           best = other;
           least = price;
@@ -728,6 +728,7 @@ public final class TaleDesk {
   /** Two rows beside one another: the least cost, THE CARRYING, and the pairs of THE LAYING. */
   private static final class Laying {
     static final int WIDTH = STEPS + 1;
+    static final int ABOVE_ALL_COSTS = 1000000;
 
     final Row a = new Row();
     final Row b = new Row();
@@ -745,7 +746,7 @@ public final class TaleDesk {
       motifPrice = prices[UNLIKE_MOTIF];
       rolePrice = prices[UNLIKE_ROLE];
       alonePrice = prices[ALONE];
-      leastCost = Integer.MAX_VALUE;
+      leastCost = ABOVE_ALL_COSTS;
       for (int c = 0; c < CARRYINGS.length && leastCost > 0; c++) {
         carrySteps(CARRYINGS[c]);
         int price = fillRests(leastCost);
@@ -766,7 +767,7 @@ public final class TaleDesk {
     /** The least cost of the carried STEPS beside b; the bound, as soon as it can't be below that. */
     int fillRests(int bound) {
       for (int i = a.length; i >= 0; i--) {
-        int least = Integer.MAX_VALUE;
+        int least = ABOVE_ALL_COSTS;
         for (int j = b.length; j >= 0; j--) {
           int at = i * WIDTH + j;
           int best = endPrice(i, j);
@@ -804,7 +805,7 @@ public final class TaleDesk {
     /** Walks THE LAYING: at each place the first move behind which the least cost can still be. */
     void findPairs() {
       carrySteps(carrying);
-      fillRests(Integer.MAX_VALUE);
+      fillRests(ABOVE_ALL_COSTS);
       Arrays.fill(partners, -1);
       int i = 0;
       int j = 0;
@@ -845,15 +846,13 @@ public final class TaleDesk {
     }
   }
 
-  /** COSTS of the book's tales; those that were reckoned are known until a tale or a PRICE changes. */
+  /** COSTS of a book's tales; those that were reckoned are known until a tale or a PRICE changes. */
   private static final class Costs {
-    final Book book;
     final Laying laying = new Laying();
     /** COST(x, y) at x * TALES + y; below 0: not reckoned. */
     final int[] known = new int[TALES * TALES];
 
-    Costs(Book theBook) {
-      book = theBook;
+    Costs() {
       Arrays.fill(known, -1);
     }
 
@@ -868,7 +867,7 @@ public final class TaleDesk {
       Arrays.fill(known, -1);
     }
 
-    int between(int x, int y) {
+    int between(Book book, int x, int y) {
       int at = x * TALES + y;
       if (known[at] < 0) {
         laying.a.takeLaid(book, x);
@@ -881,32 +880,32 @@ public final class TaleDesk {
       return known[at];
     }
 
-    void reckonHeap(int heap) {
+    void reckonHeap(Book book, int heap) {
       for (int x = 0; x < book.tales; x++) {
         for (int y = x; y < book.tales; y++) {
           if (isInHeap(heap, x) && isInHeap(heap, y)) {
-            between(x, y);
+            between(book, x, y);
           }
         }
       }
     }
 
     /** The LAYING of two tales with THE CARRYING, which a known COST does not tell. */
-    Laying layTales(int x, int y) {
+    Laying layTales(Book book, int x, int y) {
       laying.a.takeLaid(book, x);
       laying.b.takeLaid(book, y);
       laying.findLeast(book.prices);
       return laying;
     }
 
-    Laying pairTales(int x, int y) {
-      layTales(x, y);
+    Laying pairTales(Book book, int x, int y) {
+      layTales(book, x, y);
       laying.findPairs();
       return laying;
     }
 
     /** COST of a part of a tale, as a TALE, beside another tale. */
-    int ofPart(int tale, int from, int howMany, int other) {
+    int ofPart(Book book, int tale, int from, int howMany, int other) {
       laying.a.takePart(book, tale, from, howMany);
       laying.b.takeLaid(book, other);
       laying.findLeast(book.prices);

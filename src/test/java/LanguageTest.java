@@ -31,6 +31,13 @@ public final class LanguageTest {
   private static final Pattern METHOD =
       Pattern.compile("^ {2,4}(?:(?:public|private|static|final) )*(?:[\\w\\[\\]]+ )?(\\w+)\\([^;]*\\) \\{$");
   private static final Pattern CALL = Pattern.compile("(\\w+)\\(");
+  /** Of rule 4's list what the program has use for; a constant such as Integer.MAX_VALUE is not there. */
+  private static final Set<String> LIBRARY = Set.of(
+      "System.arraycopy", "Arrays.fill", "Arrays.copyOf", "Arrays.copyOfRange", "Integer.bitCount",
+      "Integer.compare", "Math.min", "Math.max", "Math.abs", "Math.floorDiv", "Math.floorMod");
+  private static final Pattern LIBRARY_USE = Pattern.compile("\\b[A-Z]\\w*[a-z]\\w*\\.\\w+");
+  private static final Pattern CONSTRUCTOR = Pattern.compile("^ {2,4}(?:public |private )?[A-Z]\\w*\\(.*\\) \\{$");
+  private static final Pattern HANDED_OUT = Pattern.compile("\\bnew \\w+\\([^)]|\\bthis\\b(?!\\.)");
 
   private static String signature(Method m) {
     List<String> kinds = new ArrayList<>();
@@ -92,8 +99,31 @@ public final class LanguageTest {
         CHECK.holds("6 no " + word + ": " + line, !m.find());
       }
       CHECK.holds("4 plain signs: " + line, line.chars().allMatch(c -> c >= 32 && c < 127));
-      CHECK.holds("4 library: " + line, !code.startsWith("import") || code.equals("import java.util.Arrays;"));
+      if (code.startsWith("import")) {
+        CHECK.holds("4 library: " + line, code.equals("import java.util.Arrays;"));
+      } else {
+        Matcher use = LIBRARY_USE.matcher(code);
+        while (use.find()) {
+          CHECK.holds("4 only what stands there, not " + use.group(), LIBRARY.contains(use.group()));
+        }
+      }
     }
+  }
+
+  /** A constructor hands out nothing of its object: what it makes is made of nothing that it holds. */
+  private static void constructors(List<String> lines) {
+    String end = "";
+    int found = 0;
+    for (String line : lines) {
+      if (CONSTRUCTOR.matcher(line).matches()) {
+        end = line.startsWith("    ") ? "    }" : "  }";
+        found++;
+      } else if (line.equals(end)) {
+        end = "";
+      }
+      CHECK.holds("12 hands out nothing: " + line, end.isEmpty() || !HANDED_OUT.matcher(line).find());
+    }
+    CHECK.holds("12 constructors were found", found >= 3);
   }
 
   /** The longest row of calls, methods of one name taken as one; a recursion would never end here. */
@@ -138,6 +168,7 @@ public final class LanguageTest {
     List<String> lines = Files.readAllLines(Path.of("src/main/java/TaleDesk.java"));
     face();
     text(lines);
+    constructors(lines);
     methods(lines);
     CHECK.end("LanguageTest");
   }
