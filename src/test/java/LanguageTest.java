@@ -31,7 +31,10 @@ public final class LanguageTest {
   private static final Pattern METHOD =
       Pattern.compile("^ {2,4}(?:(?:public|private|static|final) )*(?:[\\w\\[\\]]+ )?(\\w+)\\([^;]*\\) \\{$");
   private static final Pattern CALL = Pattern.compile("(\\w+)\\(");
-  /** Of rule 4's list what the program has use for; a constant such as Integer.MAX_VALUE is not there. */
+  /**
+   * Rule 4, "The library: only what stands here." Of its list what the program has use for; a constant
+   * such as Integer.MAX_VALUE is not there.
+   */
   private static final Set<String> LIBRARY = Set.of(
       "System.arraycopy", "Arrays.fill", "Arrays.copyOf", "Arrays.copyOfRange", "Integer.bitCount",
       "Integer.compare", "Math.min", "Math.max", "Math.abs", "Math.floorDiv", "Math.floorMod");
@@ -110,7 +113,7 @@ public final class LanguageTest {
     }
   }
 
-  /** A constructor hands out nothing of its object: what it makes is made of nothing that it holds. */
+  /** Rule 12, "A constructor .. hands out nothing of the object that it makes": neither it nor a field. */
   private static void constructors(List<String> lines) {
     String end = "";
     int found = 0;
